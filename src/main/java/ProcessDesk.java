@@ -32,7 +32,7 @@ public final class ProcessDesk {
 
     /** Far above the rounds that any PLAN needs to settle. */
     private static final int MOST_ROUNDS = 1_000_000;
-    /** Room for a whole state: 71 numbers of each DEPARTMENT, 88 of each PRODUCT, 9 others. */
+    /** Room for the largest state: 71 numbers of each DEPARTMENT, 88 of each PRODUCT, 9 others. */
     private static final int ROW_CELLS = 71 * MOST_DEPARTMENTS + 88 * MOST_PRODUCTS + 9;
     /** Above every number that a text may tell; longer ones stop here, so that they never wrap. */
     private static final int BIG_NUMBER = 100_000;
@@ -443,6 +443,11 @@ public final class ProcessDesk {
 
         int takeInt() {
             return (int) take();
+        }
+
+        /** A count that is used as a bound behind it. */
+        int takeCount(int most) {
+            return Math.min(Math.max(takeInt(), 0), most);
         }
 
         void takeAll(long[] numbers) {
@@ -909,8 +914,10 @@ public final class ProcessDesk {
             row.put(worth);
             row.put(came);
             row.put(layers);
-            row.putAll(layerUnits);
-            row.putAll(layerCents);
+            for (int k = 0; k < layers; k++) {
+                row.put(layerUnits[k]);
+                row.put(layerCents[k]);
+            }
         }
 
         void load(Row row) {
@@ -921,9 +928,11 @@ public final class ProcessDesk {
             units = row.takeInt();
             worth = row.take();
             came = row.take();
-            layers = row.takeInt();
-            row.takeAll(layerUnits);
-            row.takeAll(layerCents);
+            layers = row.takeCount(MOST_LAYERS);
+            for (int k = 0; k < layers; k++) {
+                layerUnits[k] = row.take();
+                layerCents[k] = row.take();
+            }
         }
     }
 
@@ -1125,6 +1134,7 @@ public final class ProcessDesk {
             return sum;
         }
 
+        /** What lies beyond the told DEPARTMENTS and PRODUCTS is never asked for, so it is not saved. */
         void save(Row row) {
             row.put(departments);
             row.put(products);
@@ -1135,17 +1145,17 @@ public final class ProcessDesk {
             row.put(soldSoFar);
             row.put(abnormalSoFar);
             row.put(scrapSoFar);
-            for (Department each : departmentRow) {
-                each.save(row);
+            for (int d = 0; d < departments; d++) {
+                departmentRow[d].save(row);
             }
-            for (Product each : productRow) {
-                each.save(row);
+            for (int p = 0; p < products; p++) {
+                productRow[p].save(row);
             }
         }
 
         void load(Row row) {
-            departments = row.takeInt();
-            products = row.takeInt();
+            departments = row.takeCount(MOST_DEPARTMENTS);
+            products = row.takeCount(MOST_PRODUCTS);
             storeWay = row.takeInt();
             months = row.takeInt();
             started = row.takeInt();
@@ -1153,11 +1163,11 @@ public final class ProcessDesk {
             soldSoFar = row.take();
             abnormalSoFar = row.take();
             scrapSoFar = row.take();
-            for (Department each : departmentRow) {
-                each.load(row);
+            for (int d = 0; d < departments; d++) {
+                departmentRow[d].load(row);
             }
-            for (Product each : productRow) {
-                each.load(row);
+            for (int p = 0; p < products; p++) {
+                productRow[p].load(row);
             }
         }
     }

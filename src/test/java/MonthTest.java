@@ -9,6 +9,7 @@ public final class MonthTest {
         average();
         departmentsInARow();
         fewerThanNothingCome();
+        openedAtThePoint();
         allLost();
         lostWithLeftAheadOfThePoint();
         lostWithLeftAtThePoint();
@@ -215,6 +216,7 @@ public final class MonthTest {
         loss(x, 0, 0, 0, 0, 0, 1000);
         loss(x, 1, 0, 0, 30, 10, 852);
         work(x, 1, 20, 50, 400, 0, 0, 78);
+        account(x, 1370, 0, 30, 10, 478, 852);
         Check.is("the next", 400 + 78, x::close);
         units(x, 1, 20, 0, 20, 0, 0, 0, 0);
         cents(x, 1, 0, 400, 400, 0, 0);
@@ -234,6 +236,24 @@ public final class MonthTest {
         cents(x, 0, 3, 100, 81, 12, 7);
         loss(x, 0, 0, 0, 7, 0, 81);
         Check.is("that could not be", -1, () -> x.other(0));
+    }
+
+    private static void openedAtThePoint() {
+        ProcessDesk x = Check.deskOf("dept average 50 50 0;product 100 1 0;");
+        x.start(20);
+        x.left(0, 20, 50);
+        x.close();
+        x.start(10);
+        x.lost(0, 6);
+        x.close();
+        units(x, 0, 20, 10, 24, 6, 5, 0, 10);
+        x.start(20);
+        x.left(0, 20, 49);
+        x.close();
+        x.start(10);
+        x.lost(0, 6);
+        x.close();
+        units(x, 0, 20, 10, 24, 6, 6, 0, 30);
     }
 
     private static void allLost() {

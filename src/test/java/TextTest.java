@@ -11,6 +11,7 @@ public final class TextTest {
         soundTexts();
         toldOfTexts();
         endsTooEarly();
+        cutOffTexts();
         cannotStand();
         numbersThatAreNoneSuch();
         tooMany();
@@ -103,6 +104,23 @@ public final class TextTest {
         Check.is("place in '" + text + "'", place, x::fault);
     }
 
+    /** What stands on the tape behind the text is none of it. */
+    private static void cutOff(String fed, int n, int reason, int place) {
+        ProcessDesk x = new ProcessDesk();
+        Check.feedAll(x, fed);
+        Check.is("text(" + n + ") of '" + fed + "'", reason - 10, () -> x.text(n));
+        Check.is("place in " + n + " of '" + fed + "'", place, x::fault);
+    }
+
+    private static void cutOffTexts() {
+        cutOff("deptx", 4, 1, 4);
+        cutOff("dept  ", 4, 1, 4);
+        cutOff("dept first 1001", 14, 1, 14);
+        cutOff("dept first 0 0 0;", 16, 1, 16);
+        cutOff(D + "product 100 1 0;", 32, 1, 32);
+        cutOff(D + P, 17, 4, 17);
+    }
+
     private static void soundTexts() {
         sound(D + P, 1);
         sound(P + D, 1);
@@ -164,6 +182,9 @@ public final class TextTest {
         faulty(" 5", 1, 1);
         faulty("Dept first 0 0 0;", 1, 0);
         faulty("dep", 1, 0);
+        faulty("xept first 0 0 0;", 1, 0);
+        faulty("dept firstz 0 0 0;", 1, 5);
+        faulty("dept firsta 0 0 0;", 1, 5);
         faulty("deptfirst 0 0 0;", 1, 0);
         faulty("dept firs 0 0 0;", 1, 5);
         faulty("dept 0 0 0;", 1, 5);
@@ -256,40 +277,61 @@ public final class TextTest {
     }
 
     private static void anew() {
-        ProcessDesk x = Check.deskOf("dept average 50 10 2;mat 0 0;product 100 5 0;store first;");
-        x.start(10);
-        x.spend(0, 1, 50);
-        x.left(0, 4, 50);
+        ProcessDesk x = Check.deskOf("dept average 50 10 2;mat 0 0;mat 0 40;dept average 0 50 7;product 50 5 3 by;"
+                + "product 50 6 4;store first;");
+        x.start(100);
+        x.spend(0, 1, 500);
+        x.spend(0, 3, 700);
+        x.left(0, 40, 50);
         x.lost(0, 2);
+        x.close();
+        x.start(50);
+        x.spend(0, 1, 500);
+        x.spend(0, 3, 700);
+        x.left(0, 20, 50);
+        x.lost(0, 9);
+        x.lost(1, 5);
         x.close();
         x.sell(0, 1);
         x.start(3);
         x.lost(0, 1);
         x.left(0, 1, 9);
         x.spend(0, 3, 7);
-        Check.is("anew", 1, () -> Check.tell(x, D + P));
-        for (int what = 0; what < 6; what++) {
-            int of = what;
-            Check.is("anew: account " + what, 0, () -> x.account(of));
-            Check.is("anew: work " + what, 0, () -> x.work(0, of));
-            Check.is("anew: units " + what, 0, () -> x.units(0, of));
-        }
-        for (int what = 0; what < 3; what++) {
-            int of = what;
-            Check.is("anew: parted " + what, 0, () -> x.parted(0, of));
-            Check.is("anew: store " + what, 0, () -> x.store(0, of));
-        }
+        Check.is("anew", 1, () -> Check.tell(x, "dept average 100 0 0;mat 0 0;product 100 1 0;"));
+        asNew(x);
         int[] told = {1, 1, 0, 0, 1, 0, 8};
         for (int what = 0; what < told.length; what++) {
             int of = what;
             Check.is("anew: told " + what, told[what], () -> x.told(of));
         }
-        Check.is("anew: materials", 0, () -> x.department(0, 4));
+        Check.is("anew: materials", 1, () -> x.department(0, 4));
+        Check.is("anew: no second", -1, () -> x.department(0, 6));
         Check.is("anew: lost", 0, () -> x.department(0, 9));
         Check.is("anew: left", 0, () -> x.department(0, 10));
         Check.is("anew: how far", 0, () -> x.department(0, 11));
+        Check.is("anew: main", 0, () -> x.product(0, 3));
         Check.is("anew: other", -1, () -> x.other(0));
         Check.is("anew: nothing is spent", 5, () -> x.spend(0, 3, 5));
+    }
+
+    private static void asNew(ProcessDesk x) {
+        for (int what = 0; what < 7; what++) {
+            int of = what;
+            Check.is("anew: units " + what, 0, () -> x.units(0, of));
+            Check.is("anew: work " + what, 0, () -> x.work(0, of % 6));
+            Check.is("anew: account " + what, 0, () -> x.account(of % 6));
+            Check.is("anew: loss " + what, 0, () -> x.loss(0, of % 5));
+            Check.is("anew: parted " + what, 0, () -> x.parted(0, of % 3));
+            Check.is("anew: store " + what, 0, () -> x.store(0, of % 3));
+        }
+        for (int what = 0; what < 16; what++) {
+            int kind = what / 4;
+            int of = what % 4;
+            if (kind != 2) {
+                Check.is("anew: asDone " + what, 0, () -> x.asDone(0, kind, of));
+                Check.is("anew: cents " + what, 0, () -> x.cents(0, kind, of));
+            }
+        }
     }
 
     private static void wrongAsked() {

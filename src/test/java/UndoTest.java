@@ -74,7 +74,8 @@ public final class UndoTest {
     private static void eachAct() {
         ProcessDesk x = new ProcessDesk();
         takenBack(x, "text", () -> Check.tell(x,
-                "dept first 50 10 1;mat 0 0;dept average 20 9 2 back 0 5;product 60 5 1;product 40 1 0 by;store first;"));
+                "dept first 50 10 1;mat 0 0;dept average 20 9 2 back 0 5;"
+                + "product 60 5 1;product 40 1 0 by;store first;"));
         takenBack(x, "start", () -> x.start(100));
         Check.is("spend", 1000, () -> x.spend(0, 1, 1000));
         Check.is("spend taken back", 2, x::undo);
@@ -201,5 +202,17 @@ public final class UndoTest {
         Check.tell(x, "dept first 0 0 0;product 100 0 0;");
         Check.same("not told anew", 3, x.status(1));
         Check.same("asking for others is not refused", 2, x.status(0));
+        Check.outcome(() -> x.spend(0, 1, 1));
+        Check.outcome(() -> x.asDone(0, 2, 0));
+        Check.outcome(() -> x.cents(0, 4, 0));
+        Check.same("kinds", 5, x.status(0));
+        Check.outcome(() -> x.layer(0, 0, 0));
+        Check.same("layers", 6, x.status(0));
+        Check.outcome(() -> x.product(1, 0));
+        Check.same("products", 7, x.status(0));
+        Check.outcome(x::close);
+        x.lost(0, 1);
+        Check.outcome(x::close);
+        Check.same("close", 2, x.status(2));
     }
 }
