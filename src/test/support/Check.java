@@ -1,3 +1,7 @@
+import java.io.IOException;
+import java.nio.file.Files;
+import java.nio.file.Path;
+import java.util.List;
 import java.util.NoSuchElementException;
 import java.util.Objects;
 
@@ -6,22 +10,68 @@ final class Check {
     static final Class<?> NO_SUCH = NoSuchElementException.class;
     static final Class<?> ARGUMENT = IllegalArgumentException.class;
     static final Class<?> STATE = IllegalStateException.class;
+    /** In the order of status(). */
+    private static final List<Class<?>> REASONS = List.of(NO_SUCH, ARGUMENT, STATE);
 
     interface Call {
         long answer();
     }
 
+    interface Make {
+        ProcessDesk desk();
+    }
+
+    interface CallOn {
+        long answer(ProcessDesk desk);
+    }
+
     private static int asked = 0;
     private static int wrong = 0;
+    private static int sentences = 0;
+    private static int askedAhead = 0;
+    private static String sentence = "";
+    private static String document = null;
 
     private Check() {
+    }
+
+    /** What is checked from here on is what these words of the document say. */
+    static void sentence(String words) {
+        endSentence();
+        sentences++;
+        sentence = words;
+        askedAhead = asked;
+        if (!document().isEmpty() && !document().contains(words)) {
+            wrong++;
+            System.out.println("the document has no such words: " + words);
+        }
+    }
+
+    private static void endSentence() {
+        if (!sentence.isEmpty() && asked == askedAhead) {
+            wrong++;
+            System.out.println("nothing is checked of: " + sentence);
+        }
+    }
+
+    private static String document() {
+        if (document == null) {
+            try {
+                document = Files.readString(Path.of("../shared/DOC.md"));
+            } catch (IOException unread) {
+                // where the document is not, the words can't be looked up; the calls are checked all the same
+                document = "";
+            }
+        }
+        return document;
     }
 
     static void same(String what, Object due, Object got) {
         asked++;
         if (!Objects.equals(due, got)) {
             wrong++;
-            System.out.println(what + " answered " + got + ", due is " + due);
+            String of = sentence.isEmpty() ? "" : " (\"" + sentence + "\")";
+            System.out.println(what + " answered " + got + ", due is " + due + of);
         }
     }
 
@@ -31,6 +81,19 @@ final class Check {
 
     static void refused(String what, Class<?> due, Call call) {
         same(what, (Object) due, outcome(call));
+    }
+
+    /** The call must throw what is due and be counted as that; a desk without that call must tell the same. */
+    static void refusedAlone(String what, Class<?> due, Make make, CallOn call) {
+        ProcessDesk with = make.desk();
+        ProcessDesk without = make.desk();
+        List<Integer> counted = State.refusals(without);
+        int reason = REASONS.indexOf(due);
+        counted.set(reason, counted.get(reason) + 1);
+        same(what, (Object) due, outcome(() -> call.answer(with)));
+        same(what + ": status", counted, State.refusals(with));
+        same(what + ": all else", State.of(without), State.of(with));
+        same(what + ": what can be taken back", State.backwards(without), State.backwards(with));
     }
 
     /** The number that a call answers, or the class of what it throws. */
@@ -71,7 +134,9 @@ final class Check {
     }
 
     static void end(String name) {
-        System.out.println(name + ": " + asked + " asked, " + wrong + " not as due");
+        endSentence();
+        String told = sentences == 0 ? "" : sentences + " sentences, ";
+        System.out.println(name + ": " + told + asked + " asked, " + wrong + " not as due");
         if (wrong != 0 || asked == 0) {
             System.exit(1);
         }
