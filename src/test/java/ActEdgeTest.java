@@ -17,6 +17,7 @@ public final class ActEdgeTest {
         latestEight();
         notYetTakenBack();
         eachActTakenBack();
+        largestTakenBack();
         textTakenBack();
         askedNothingChanges();
         planOfNothing();
@@ -25,6 +26,8 @@ public final class ActEdgeTest {
         planBack();
         planRounds();
         planChangesNothing();
+        manyCalls();
+        printFromNothing();
         Check.end("ActEdgeTest");
     }
 
@@ -252,6 +255,63 @@ public final class ActEdgeTest {
         }
     }
 
+    /** The last numbers of the largest state: five departments, four products of forty layers each. */
+    private static void largestTakenBack() {
+        Check.sentence("all taken back");
+        StringBuilder text = new StringBuilder();
+        for (int d = 0; d < 5; d++) {
+            text.append("dept average 50 9 3;mat ").append(d).append(" 0;mat ").append(d).append(" 50;");
+        }
+        text.append("product 25 4 0;product 25 3 0;product 25 2 0;product 25 1 0;store first;");
+        ProcessDesk x = Check.deskOf(text.toString());
+        for (int i = 1; i <= 40; i++) {
+            x.start(100 + i);
+            x.spend(4, 3, 1000 * i);
+            x.left(4, i, 50);
+            x.close();
+        }
+        List<Long> due = lastNumbers(x);
+        x.sell(3, 30);
+        x.sell(0, 30);
+        x.start(1);
+        Check.tell(x, "dept first 0 0 0;product 100 0 0;");
+        x.start(2);
+        x.close();
+        Check.is("undo", 7, x::undo);
+        for (int i = 6; i >= 2; i--) {
+            int still = i;
+            Check.is("undo", still, x::undo);
+        }
+        Check.same("all is as it was", due, lastNumbers(x));
+        x.start(4);
+        Check.refused("a layer too many", Check.STATE, x::close);
+        Check.is("undo", 2, x::undo);
+        Check.same("a refused month is as it was", due, lastNumbers(x));
+    }
+
+    private static List<Long> lastNumbers(ProcessDesk x) {
+        List<Long> all = new ArrayList<>();
+        for (int p = 0; p < 4; p++) {
+            all.add(x.store(p, 0));
+            all.add(x.store(p, 1));
+            all.add(x.store(p, 2));
+            all.add(x.parted(p, 2));
+            all.add(x.layer(p, 39, 0));
+            all.add(x.layer(p, 39, 1));
+        }
+        for (int d = 0; d < 5; d++) {
+            all.add(x.work(d, 5));
+            all.add(x.loss(d, 4));
+            all.add(x.cents(d, 3, 3));
+            all.add(x.other(d));
+        }
+        all.add(x.print());
+        all.add(x.account(0));
+        all.add(x.account(4));
+        all.add(x.account(5));
+        return all;
+    }
+
     private static void textTakenBack() {
         Check.sentence("(empty then)");
         ProcessDesk x = new ProcessDesk();
@@ -374,5 +434,42 @@ public final class ActEdgeTest {
         Check.is("units", 5, () -> x.units(0, 2));
         Check.is("nothing is in work", 0, () -> x.work(0, 0));
         Check.is("a plan is the same behind it", x.plan(10, 6), () -> x.plan(10, 6));
+    }
+
+    private static void manyCalls() {
+        Check.sentence("An object is used for at most 512 calls after it has been made");
+        ProcessDesk x = new ProcessDesk();
+        for (int i = 1; i <= 510; i++) {
+            Check.is("close " + i, 0, x::close);
+        }
+        Check.is("call 511", 510, () -> x.told(2));
+        Check.is("call 512", 7, x::undo);
+        ProcessDesk y = new ProcessDesk();
+        for (int i = 1; i <= 510; i++) {
+            Check.refused("call " + i, Check.STATE, () -> y.sell(0, 1));
+        }
+        Check.same("call 511", 510, y.status(2));
+        Check.is("call 512", 1, () -> y.start(1));
+        ProcessDesk z = new ProcessDesk();
+        for (int i = 1; i <= 511; i++) {
+            Check.is("call " + i, i > 20 ? -1 : 20 * i, () -> z.feed(-1, -1, -1, -1, -1));
+        }
+        Check.is("call 512", -9, () -> z.text(400));
+    }
+
+    private static void printFromNothing() {
+        Check.sentence("From 0 on, of DEPARTMENT by DEPARTMENT 31 times, and its units in work, 31 times, and cents of "
+                + "these together");
+        ProcessDesk x = new ProcessDesk();
+        Check.is("of nothing", 0, x::print);
+        x.start(5);
+        x.spend(0, 3, 7);
+        Check.is("what is not closed is not in it", 0, x::print);
+        x.left(0, 2, 100);
+        x.close();
+        // 2 of 2 cents are in work, 3 of 5 in the store
+        Check.is("one of each", ((2 * 31 + 2) * 31 + 3) * 31 + 5, x::print);
+        x.sell(0, 3);
+        Check.is("an empty store", (2 * 31 + 2) * 31 * 31, x::print);
     }
 }

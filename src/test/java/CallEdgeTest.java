@@ -1,3 +1,5 @@
+import java.util.List;
+
 /** The edges of each call's arguments, what it throws, and that a refused call changes nothing but status(). */
 public final class CallEdgeTest {
     private static final int LEAST = Integer.MIN_VALUE;
@@ -134,27 +136,60 @@ public final class CallEdgeTest {
                 + "CLOSED): how many DEPARTMENTS");
         ProcessDesk x = busy();
         Check.is("one department", 1, () -> x.text(33));
-        ProcessDesk y = new ProcessDesk();
-        Check.tell(y, "dept first 0 0 0;product 100 1 0;");
-        for (int what = 0; what < 5; what++) {
-            int of = what;
-            Check.is("as if told to a new one: told " + what, y.told(what), () -> x.told(of));
-        }
-        for (int what = 0; what < 6; what++) {
-            int of = what;
-            Check.is("work " + what, 0, () -> x.work(0, of));
-            Check.is("account " + what, 0, () -> x.account(of));
-            Check.is("units " + what, 0, () -> x.units(0, of));
-            Check.is("store " + what, 0, () -> x.store(0, of % 3));
-            Check.is("parted " + what, 0, () -> x.parted(0, of % 3));
-            Check.is("department " + what, y.department(0, what + 6), () -> x.department(0, of + 6));
-        }
+        anew("dept first 0 0 0;product 100 1 0;");
+        anew("dept average 100 0 0;mat 0 1;mat 0 2;dept first 0 0 0;mat 1 3;product 20 1 1;product 80 0 0;");
+        anew("dept first 50 9 9;dept first 50 9 9;dept first 50 9 9;product 50 1 0 by;product 50 1 0;store first;");
         Check.is("none was closed", -1, () -> x.other(0));
         Check.refused("the second is gone", Check.NO_SUCH, () -> x.work(1, 0));
         Check.refused("so is the second product", Check.NO_SUCH, () -> x.store(1, 0));
         ProcessDesk z = new ProcessDesk();
         Check.is("five departments", 5,
                 () -> Check.tell(z, "dept first 0 0 0;".repeat(5) + "product 100 1 0;"));
+    }
+
+    /** Behind a text a desk tells what a new one with that text does; the acts that can be taken back are more. */
+    private static void anew(String text) {
+        ProcessDesk x = lossy();
+        ProcessDesk y = new ProcessDesk();
+        int departments = Check.tell(y, text);
+        Check.is("text", departments, () -> Check.tell(x, text));
+        List<Long> got = State.of(x);
+        Check.same("acts", 8L, got.set(6, 1L));
+        Check.same("told anew by " + text, State.of(y), got);
+        x.close();
+        y.close();
+        got = State.of(x);
+        got.set(6, 2L);
+        Check.same("closed behind " + text, State.of(y), got);
+    }
+
+    /** Every number of its latest month, of what is in work and of what is in the store is another than 0. */
+    private static ProcessDesk lossy() {
+        ProcessDesk x = new ProcessDesk();
+        Check.tell(x, "dept average 50 10 2;mat 0 0;mat 0 40;dept average 0 50 7;mat 1 0;mat 1 0;product 50 9 3 by;"
+                + "product 50 8 4;store first;");
+        for (int month = 0; month < 2; month++) {
+            x.start(1000);
+            for (int d = 0; d < 2; d++) {
+                x.spend(d, 1, 500_000);
+                x.spend(d, 2, 600_000);
+                x.spend(d, 3, 700_000);
+                x.left(d, 40, 50);
+                x.lost(d, 200);
+            }
+            x.close();
+        }
+        x.sell(0, 1);
+        x.sell(1, 2);
+        x.start(5);
+        for (int d = 0; d < 2; d++) {
+            x.lost(d, 1);
+            x.left(d, 2, 3);
+            for (int kind = 1; kind <= 3; kind++) {
+                x.spend(d, kind, 9);
+            }
+        }
+        return x;
     }
 
     private static void textEmptiesTheTape() {
@@ -214,7 +249,7 @@ public final class CallEdgeTest {
         Check.is("behind a fault and one that threw", 11, x::fault);
         Check.tell(x, "  x");
         Check.is("behind another", 2, x::fault);
-        Check.tell(x, "dept first 0 0 0;product 100 1 0;");
+        Check.is("text", 1, () -> Check.tell(x, "dept first 0 0 0;product 100 1 0;"));
         Check.is("without one", -1, x::fault);
         Check.tell(x, "");
         Check.is("at the length of none", 0, x::fault);

@@ -28,6 +28,7 @@ public final class MonthEdgeTest {
         normalCents();
         netNotBelowNothing();
         netBornByLeft();
+        netBornAtPointNothing();
         netBornByNeither();
         abnormalBelowNothing();
         outWithNet();
@@ -36,6 +37,8 @@ public final class MonthEdgeTest {
         otherWay();
         otherCouldNotBe();
         centsSoFar();
+        aheadOfAnyMonth();
+        closeAnswersOut();
         Check.end("MonthEdgeTest");
     }
 
@@ -547,6 +550,29 @@ public final class MonthEdgeTest {
         work(z, 0, 3, 40, 0, 0, 0, 12);
     }
 
+    private static void netBornAtPointNothing() {
+        Check.sentence("It is borne by FINISHED and, if LEFT are at the POINT or more, by these");
+        ProcessDesk x = Check.deskOf("dept average 100 0 0;dept average 0 50 0;" + P);
+        x.start(10);
+        x.spend(0, 3, 100);
+        x.lost(1, 3);
+        x.left(1, 4, 0);
+        // 30 cents are lost, 4 that are left at 0 and 3 that are finished bear them
+        Check.is("close", 30 + 13, x::close);
+        units(x, 1, 0, 10, 3, 3, 3, 4, 10);
+        loss(x, 1, 30, 17, 0, 0, 43);
+        work(x, 1, 4, 0, 40, 0, 0, 17);
+        cents(x, 1, 3, 0, 0, 0, 0);
+        ProcessDesk y = Check.deskOf("dept average 100 0 0;dept average 1 50 0;" + P);
+        y.start(10);
+        y.spend(0, 3, 100);
+        y.lost(1, 3);
+        y.left(1, 4, 0);
+        Check.is("a hundredth ahead of the point they bear none", 30 + 30, y::close);
+        loss(y, 1, 30, 0, 0, 0, 60);
+        work(y, 1, 4, 0, 40, 0, 0, 0);
+    }
+
     private static void netBornByNeither() {
         Check.sentence("if there are neither, it is ABNORMAL, too");
         // nothing is finished, and 3 are left ahead of the point: 5 come, 2 are normal, 10 cents of 25
@@ -679,6 +705,17 @@ public final class MonthEdgeTest {
             Check.is("asked, nothing stays changed", own, () -> x.loss(0, 4));
             work(x, 0, 2, 50, 0, 0, 0, 130 - own);
         }
+        ProcessDesk y = Check.deskOf("dept average 100 0 0;" + P);
+        y.start(2);
+        y.spend(0, 3, 100);
+        y.left(0, 2, 50);
+        y.close();
+        y.start(2);
+        y.spend(0, 3, 60);
+        y.lost(0, 2);
+        // by average half of 160; first-in 100 and a third of 60
+        Check.is("out", 80, y::close);
+        Check.is("the other way, with what was lost", 120, () -> y.other(0));
     }
 
     private static void otherCouldNotBe() {
@@ -731,5 +768,50 @@ public final class MonthEdgeTest {
         Check.is("in work", 1, () -> x.account(4));
         Check.is("abnormal stays", 23, () -> x.account(2));
         Check.is("in the store", 76, () -> x.account(5));
+    }
+
+    private static void aheadOfAnyMonth() {
+        Check.sentence("Of the latest MONTH (all 0 ahead of any) of a DEPARTMENT");
+        ProcessDesk x = Check.deskOf("dept average 50 50 9;" + P);
+        allNothing(x);
+        x.start(20);
+        x.spend(0, 3, 200);
+        x.lost(0, 3);
+        x.left(0, 4, 60);
+        allNothing(x);
+        x.close();
+        units(x, 0, 0, 20, 13, 3, 3, 4, 20);
+        x.undo();
+        allNothing(x);
+        x.close();
+        x.close();
+        units(x, 0, 4, 0, 4, 0, 0, 0, 0);
+    }
+
+    private static void allNothing(ProcessDesk x) {
+        units(x, 0, 0, 0, 0, 0, 0, 0, 0);
+        loss(x, 0, 0, 0, 0, 0, 0);
+        for (int kind = 0; kind < 4; kind += 3) {
+            done(x, 0, kind, 0, 0, 0, 0);
+            cents(x, 0, kind, 0, 0, 0, 0);
+        }
+        work(x, 0, 0, 0, 0, 0, 0, 0);
+    }
+
+    private static void closeAnswersOut() {
+        Check.sentence("OUT of the last DEPARTMENT. IllegalStateException");
+        ProcessDesk x = new ProcessDesk();
+        Check.is("of nothing", 0, x::close);
+        Check.is("a month all the same", 1, () -> x.told(2));
+        ProcessDesk y = Check.deskOf("dept average 100 0 0;dept average 100 0 0;" + P);
+        y.start(4);
+        y.spend(0, 3, 100);
+        y.spend(1, 3, 8);
+        y.left(1, 1, 100);
+        Check.is("of the last alone", 75 + 6, y::close);
+        Check.is("of the first", 100, () -> y.loss(0, 4));
+        y.spend(0, 3, 100_000_000);
+        y.spend(1, 3, 100_000_000);
+        Check.is("the most of a month, and what was left", 200_000_027, y::close);
     }
 }

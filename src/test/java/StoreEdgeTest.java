@@ -231,6 +231,10 @@ public final class StoreEdgeTest {
             store(x, 0, 7 - units, 31 - due[units], units < 3 ? 2 : units < 7 ? 1 : 0);
             Check.is("sold", due[units], () -> x.account(1));
         }
+        ProcessDesk y = twoLayers();
+        y.sell(0, 3);
+        y.sell(0, 2);
+        Check.is("sold so far", 20, () -> y.account(1));
     }
 
     private static void soldPartCut() {

@@ -69,6 +69,8 @@ public final class TextEdgeTest {
             faulty(ahead + (least - 1) + behind, 2, ahead.length());
         }
         faulty(ahead + (most + 1) + behind, 2, ahead.length());
+        faulty(ahead + (most + 1) + "x", 2, ahead.length());
+        faulty(ahead + (most + 1) + behind + "x", 2, ahead.length());
         for (int bits : new int[] {8, 16, 31, 32, 63, 64, 128}) {
             BigInteger wrapping = BigInteger.ONE.shiftLeft(bits).add(BigInteger.valueOf(most));
             if (wrapping.compareTo(BigInteger.valueOf(most + 9_999)) > 0) {
@@ -299,6 +301,16 @@ public final class TextEdgeTest {
         faulty("dep first 0 0 0;", 1, 0);
         faulty("Dept first 0 0 0;", 1, 0);
         faulty("depT first 0 0 0;", 1, 0);
+        faulty("xept first 0 0 0;", 1, 0);
+        faulty("dept xirst 0 0 0;", 1, 5);
+        faulty("dept xverage 0 0 0;", 1, 5);
+        faulty("dept first 0 0 0 xack 0 5;", 1, 17);
+        faulty("xroduct 100 1 0;", 1, 0);
+        faulty("product 100 1 0 xy;", 1, 16);
+        faulty("xtore first;", 1, 0);
+        faulty(D + "xat 0 5;", 1, 17);
+        faulty("dept firstz 0 0 0;", 1, 5);
+        faulty("dept firsta 0 0 0;", 1, 5);
         faulty("dept` first 0 0 0;", 1, 4);
         faulty("dept{ first 0 0 0;", 1, 4);
         faulty("dept first 0 0 0backs 0 5;", 1, 16);
@@ -372,6 +384,20 @@ public final class TextEdgeTest {
         }
         faulty("dept  ", 1, 6);
         faulty("dept first 0 0 0 back   ", 1, 24);
+        behindTheText("dept first 0 0 0;", 4, 4);
+        behindTheText("deptfirst", 4, 4);
+        behindTheText("dept first 1001 0 0;", 14, 14);
+        behindTheText("dept first 0 0 0 ;", 16, 16);
+        behindTheText("dept first 0 0 0 ;", 17, 17);
+        behindTheText("dept  first", 5, 5);
+    }
+
+    /** What is on the tape behind the n bytes is no part of the text. */
+    private static void behindTheText(String fed, int n, int place) {
+        ProcessDesk x = new ProcessDesk();
+        Check.feedAll(x, fed);
+        Check.is("text(" + n + ") of '" + fed + "'", -9, () -> x.text(n));
+        Check.is("place in " + n + " bytes of '" + fed + "'", place, x::fault);
     }
 
     private static boolean isLetter(char sign) {
