@@ -795,7 +795,7 @@ public final class ProcessDesk {
             point = row.takeInt();
             rate = row.takeInt();
             scrap = row.takeInt();
-            materials = row.takeInt();
+            materials = row.takeCount(MOST_MATERIALS);
             row.takeAll(addedAt);
             backTo = row.takeInt();
             backShare = row.takeInt();
